@@ -580,6 +580,13 @@ final class Model {
     Fraction told;
     private final Map<String, Listing> listings = new HashMap<>();
 
+    static Model with(String text) {
+        Model m = new Model();
+        m.tape.append(text);
+        m.book(text.length());
+        return m;
+    }
+
     int feed(int a, int b, int c, int d, int e) {
         if (tape.length() + 20 > 400) {
             return -1;

@@ -43,13 +43,14 @@ final class ModelTest {
 
     private String text() {
         StringBuilder out = new StringBuilder();
-        int lines = 1 + below(oneIn(3) ? 4 : 2);
+        boolean allOwn = oneIn(3);
+        int lines = allOwn ? 1 + below(3) : 1 + below(oneIn(3) ? 4 : 2);
         int many = 0;
         int[] marks = new int[20];
         int[] sorts = new int[20];
         int heavyMost = oneIn(3) ? 99 : 5;
         for (int l = 0; l < lines && many < 8; l++) {
-            int sort = many == 7 ? 0 : below(3);
+            int sort = many == 7 || allOwn ? 0 : below(3);
             out.append(out.length() == 0 ? "" : ";");
             int heavy = 1 + below(heavyMost);
             if (sort == 0) {
@@ -66,9 +67,9 @@ final class ModelTest {
                 many += 2;
             }
         }
-        int rules = 1 + below(4);
+        int rules = oneIn(3) ? 4 : 1 + below(4);
         for (int tries = 0; tries < 200 && rules > 0; tries++) {
-            int size = 3 + below(2);
+            int size = oneIn(3) ? 4 : 3;
             int[] legs = new int[size];
             for (int k = 0; k < size; k++) {
                 legs[k] = below(many);
@@ -230,11 +231,7 @@ final class ModelTest {
     private void call() {
         switch (below(14)) {
             case 0 -> meet();
-            case 1 -> {
-                int order = order();
-                run += "drawings(" + order + ") ";
-                due("drawings(" + order + ")", x.drawings(order), m.drawings(order));
-            }
+            case 1 -> list();
             case 2, 3 -> lookAtDrawings();
             case 4 -> lookAtRows();
             case 5 -> lookAtSums();
@@ -252,11 +249,18 @@ final class ModelTest {
                     String text = text();
                     run += "book(" + text + ") ";
                     readBoth(text);
-                } else {
-                    meet();
                 }
+                meet();
+                afterCall();
+                list();
             }
         }
+    }
+
+    private void list() {
+        int order = order();
+        run += "drawings(" + order + ") ";
+        due("drawings(" + order + ")", x.drawings(order), m.drawings(order));
     }
 
     private void lookAtDrawings() {
@@ -381,12 +385,21 @@ final class ModelTest {
     private void cutAt() {
         int size = m.count(2);
         int side = below(1 << Math.max(1, size)) | (oneIn(9) ? 0 : 1);
+        if (size > 3 && Integer.bitCount(side) < 2 && !oneIn(5)) {
+            side |= 2 << below(size - 1);
+        }
         int kind = endKind();
         int order = oneIn(15) ? below(6) - 1 : 2 + below(2);
         String args = "(" + side + "," + kind + "," + order + ")";
         run += "parted" + args + " ";
         due("parted" + args, x.parted(side, kind, order), m.parted(side, kind, order));
         afterCall();
+        if (m.trouble() == 0 && oneIn(2)) {
+            // At a pole of the whole the parts can still be told.
+            run += "at(" + order + ") ";
+            due("at(" + order + ")", x.at(order), m.at(order));
+            afterCall();
+        }
         run += "whole" + args + " ";
         due("whole" + args, x.whole(side, kind, order), m.whole(side, kind, order));
     }
