@@ -49,9 +49,7 @@ public final class DrawnWays {
     private final int[] letters = new int[LETTER_COUNT];
     private final int[] told = new int[MOST_ENDS];
     private Book book = new Book();
-    private Book spareBook = new Book();
     private Gallery list = new Gallery();
-    private Gallery spareList = new Gallery();
     private Reckoning answer = new Reckoning();
     private Reckoning trial = new Reckoning();
     private boolean listed;
@@ -75,14 +73,14 @@ public final class DrawnWays {
         if (n < 0 || n > reader.length) {
             return refused(BAD_NUMBER);
         }
-        boolean read = reader.read(n, spareBook);
+        boolean read = reader.read(n);
         reader.length = 0;
         if (!read) {
             return refused(FAULTY);
         }
         Book old = book;
-        book = spareBook;
-        spareBook = old;
+        book = reader.draft;
+        reader.draft = old;
         ends.clear();
         listed = false;
         for (int l = 0; l < LETTER_COUNT; l++) {
@@ -147,12 +145,12 @@ public final class DrawnWays {
         if (!ends.isBalanced(book)) {
             return refused(UNBALANCED);
         }
-        if (!lister.fill(book, ends, order, spareList)) {
+        if (!lister.fill(book, ends, order)) {
             return refused(NO_ROOM);
         }
         Gallery old = list;
-        list = spareList;
-        spareList = old;
+        list = lister.gallery;
+        lister.gallery = old;
         listed = true;
         refusal = NOT_REFUSED;
         return list.size;
@@ -369,11 +367,11 @@ public final class DrawnWays {
             return NUMBERS_LEFT;
         }
         boolean ready = listed && list.order == order;
-        if (!ready && !lister.fill(book, ends, order, spareList)) {
+        if (!ready && !lister.fill(book, ends, order)) {
             return NO_ROOM;
         }
         trial.clear();
-        trial.addWorths(ready ? list : spareList, book, ends, letters, side, sideKind);
+        trial.addWorths(ready ? list : lister.gallery, book, ends, letters, side, sideKind);
         return settle();
     }
 
@@ -387,16 +385,16 @@ public final class DrawnWays {
         }
         trial.clear();
         for (int first = 1; first < order; first++) {
-            if (!lister.fill(book, near, first, spareList)) {
+            if (!lister.fill(book, near, first)) {
                 return NO_ROOM;
             }
             nearPart.clear();
-            nearPart.addWorths(spareList, book, near, letters, 0, NONE);
-            if (!lister.fill(book, far, order - first, spareList)) {
+            nearPart.addWorths(lister.gallery, book, near, letters, 0, NONE);
+            if (!lister.fill(book, far, order - first)) {
                 return NO_ROOM;
             }
             farPart.clear();
-            farPart.addWorths(spareList, book, far, letters, 0, NONE);
+            farPart.addWorths(lister.gallery, book, far, letters, 0, NONE);
             trial.addProduct(nearPart, farPart);
         }
         return settle();
@@ -484,7 +482,8 @@ public final class DrawnWays {
         private int value;
         private int fault;
         private int place;
-        private Book into;
+        // What is read is told here; it becomes the book if the text has no fault.
+        private Book draft = new Book();
 
         int take(int a, int b, int c, int d, int e) {
             if (length > TAPE_SIZE - FED) {
@@ -498,13 +497,12 @@ public final class DrawnWays {
             return length;
         }
 
-        boolean read(int n, Book target) {
+        boolean read(int n) {
             end = n;
             next = 0;
             fault = 0;
             place = NONE;
-            into = target;
-            into.clear();
+            draft.clear();
             advance();
             for (int line = 0; line < TAPE_SIZE; line++) {
                 if (!readLine()) {
@@ -602,7 +600,7 @@ public final class DrawnWays {
             if (!readNewName() || !readHeavy()) {
                 return false;
             }
-            into.setOwn(value);
+            draft.setOwn(value);
             advance();
             return true;
         }
@@ -617,7 +615,7 @@ public final class DrawnWays {
             if (!readInt(9, true)) {
                 return false;
             }
-            into.setTwo(sort, heavy, value);
+            draft.setTwo(sort, heavy, value);
             advance();
             return true;
         }
@@ -626,10 +624,10 @@ public final class DrawnWays {
             if (!isName()) {
                 return fail(FORM, start);
             }
-            if (into.findKind(word) != NONE) {
+            if (draft.findKind(word) != NONE) {
                 return fail(TOLD_ANEW, start);
             }
-            if (!into.addKind(word)) {
+            if (!draft.addKind(word)) {
                 return fail(MANY, start);
             }
             advance();
@@ -661,7 +659,7 @@ public final class DrawnWays {
 
         private boolean readMeet() {
             int from = start;
-            if (!into.openRule()) {
+            if (!draft.openRule()) {
                 return fail(MANY, from);
             }
             advance();
@@ -680,7 +678,7 @@ public final class DrawnWays {
             if (word < 1 || word > LETTER_COUNT) {
                 return fail(BOUNDS, start);
             }
-            if (!into.closeRule(ruleWorth, (int) word - 1)) {
+            if (!draft.closeRule(ruleWorth, (int) word - 1)) {
                 return fail(UNEVEN, from);
             }
             advance();
@@ -696,11 +694,11 @@ public final class DrawnWays {
                 if (!isName()) {
                     return fail(FORM, start);
                 }
-                int found = into.findKind(word);
+                int found = draft.findKind(word);
                 if (found == NONE) {
                     return fail(UNTOLD, start);
                 }
-                if (!into.addLeg(found)) {
+                if (!draft.addLeg(found)) {
                     return fail(MANY, start);
                 }
                 advance();
@@ -1051,12 +1049,14 @@ public final class DrawnWays {
             return Integer.bitCount(links) >= points - 1;
         }
 
+        // Whether legs may be joined, and the second is the first of those alike that are left.
+        boolean isFirst(int i, int j, int left) {
+            return (((left & partners[i]) >> j) & 1) != 0 && (left & alike[j] & ((1 << j) - 1)) == 0;
+        }
+
         // Of legs alike and of points alike only the first that is left can stand in a least row.
         boolean mayLead(int i, int j, int left, int touched) {
-            if (((left & partners[i]) >> j & 1) == 0) {
-                return false;
-            }
-            if ((left & alike[j] & ((1 << j) - 1)) != 0) {
+            if (!isFirst(i, j, left)) {
                 return false;
             }
             int q = legPoints[j];
@@ -1320,19 +1320,19 @@ public final class DrawnWays {
         private final Layout layout = new Layout();
         // How many joins there are between legs alike to one and legs alike to another.
         private final int[] joins = new int[MOST_LEGS * MOST_LEGS];
-        private Gallery gallery;
+        // What is found is listed here; it becomes the list if there is room for all.
+        private Gallery gallery = new Gallery();
 
         // False if there are more drawings than there is room for.
-        boolean fill(Book book, Ends ends, int order, Gallery into) {
-            gallery = into;
-            into.clear(order);
+        boolean fill(Book book, Ends ends, int order) {
+            gallery.clear(order);
             int codes = 1 << (2 * order);
-            for (int code = 0; code < codes && !into.full; code++) {
-                if (layout.lay(book, ends, order, code) && into.openGroup(book, layout, code)) {
+            for (int code = 0; code < codes && !gallery.full; code++) {
+                if (layout.lay(book, ends, order, code) && gallery.openGroup(book, layout, code)) {
                     draw(book, layout.allLegs(), 0, 0L, 1, 0);
                 }
             }
-            return !into.full;
+            return !gallery.full;
         }
 
         // Joins the lowest leg that is left in every way that can begin a least row.
@@ -1526,7 +1526,8 @@ public final class DrawnWays {
             }
         }
 
-        // The signs of all pairings of the legs that are left, together.
+        // The signs of all pairings of the legs that are left, together. Legs alike are never half
+        // ones, so the first of them that is left stands for the others: their pairings have its signs.
         private int walk(int left, int links, int depth) {
             if (left == 0) {
                 return layout.hangs(links) ? 1 : 0;
@@ -1538,8 +1539,8 @@ public final class DrawnWays {
             int others = left & (left - 1);
             int total = 0;
             for (int j = i + 1; j < layout.legs; j++) {
-                if (((others & layout.partners[i]) >> j & 1) != 0) {
-                    total += layout.signOf(i, j, others)
+                if (layout.isFirst(i, j, others)) {
+                    total += layout.signOf(i, j, others) * Integer.bitCount(others & layout.alike[j])
                             * walk(others & ~(1 << j), links | layout.link(i, j), depth + 1);
                 }
             }
@@ -1602,7 +1603,8 @@ public final class DrawnWays {
                         pole = list.sideOf(i, cut);
                     }
                     for (int k = 0; k < PRIME_COUNT; k++) {
-                        below[k] = Math.floorMod(below[k] * Math.floorMod(by, PRIMES[k]), PRIMES[k]);
+                        long prime = PRIMES[k];
+                        below[k] = below[k] * Math.floorMod(by, prime) % prime;
                     }
                 }
             }
