@@ -270,6 +270,8 @@ final class MeetingTest {
         due("a LEG with itself", x.same(0, 3, 1, 607, 405, 908, 0), -2);
         due("a partner joined elsewhere", x.same(0, 203, 1, 607, 504, 908, 0), -2);
         due("a partner beyond", x.same(0, 1203, 1, 607, 405, 908, 0), -2);
+        due("a partner beyond 15", x.same(0, 202, 1601, 607, 405, 908, 0), -2);
+        due("the tenth LEG of ten", x.same(0, 203, 1, 607, 405, 1008, 0), -2);
         due("a number below 0", x.same(0, -203, 1, 607, 405, 908, 0), -2);
         due("the least int", x.same(0, Integer.MIN_VALUE, 1, 607, 405, 908, 0), -2);
         due("the most int", x.same(0, 203, 1, 607, 405, Integer.MAX_VALUE, 0), -2);

@@ -12,6 +12,7 @@ final class WorthTest {
         poles();
         poleAtZero();
         lost();
+        justWithin();
         parts();
         refusedParts();
         sides();
@@ -192,6 +193,22 @@ final class WorthTest {
         CHECKS.due("letter", z.letter(0, 99), true);
         // 99 to the fourth power by 98 times 98, twice
         told("numerators within the bound", z.at(2), z, -96059601, 4802);
+    }
+
+    // Without flows and with HEAVY 1 each join divides by -1: 75 * 79 * 80 * 80 + 2 * (160 * 95) squared.
+    private static void justWithin() {
+        DrawnWays x = Checks.with("own f 1;own g 1;own h 1;own k 1;meet f f g by 75 a;meet h h g by 80 b;"
+                + "meet f h k by 80 c;meet k f h by 80 c");
+        x.meeting(0, 0, 2, 2, -1, 0);
+        x.letter(0, 79);
+        x.letter(1, 80);
+        x.letter(2, 95);
+        told("a numerator of 500,000,000", x.at(2), x, -500000000, 1);
+        x.letter(1, 81);
+        refused("one beyond", x.at(2), x, 6);
+        due("worth stays", x.worth(false), -500000000);
+        x.letter(0, -79);
+        told("within again", x.at(2), x, 75L * 79 * 80 * 81 - 2L * 15200 * 15200, 1);
     }
 
     // Promises 21 and 22
