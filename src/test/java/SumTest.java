@@ -105,16 +105,19 @@ final class SumTest {
         CHECKS.due("drawings", x.count(3), 2);
         // Two points alike with g, h, i between them, and two with g, j, k.
         due(x, 2, 0, 0, 83L * 79 + 73L * 71, 89L * 83 * 79 * 73 * 71);
-        String many = "own a 97;own b 89;own c 83;own d 79;meet a b b by 1 a;meet a c c by 1 a;"
-                + "meet a d d by 1 a;meet a a a by 1 a";
-        DrawnWays z = Checks.with(many);
-        z.meeting(0, 0, 0, -1, 0, 0);
-        z.drawings(3);
-        due(z, 3, 0, 0, Checks.NO_LONG, Checks.NO_LONG);
-        Model m = Model.with(many);
-        m.meeting(0, 0, 0, -1, 0, 0);
-        m.drawings(3);
-        CHECKS.due("beyond for the model, too", m.sum(3, 0, 0, true), Checks.NO_LONG);
+        due(three(97), 3, 0, 0, 7299648239451L, 367891284947698819L);
+        // The numerator alone, the denominator alone, and both are beyond.
+        due(three(1), 3, 0, 0, Checks.NO_LONG, Checks.NO_LONG);
+        due(three(8), 3, 0, 0, Checks.NO_LONG, Checks.NO_LONG);
+        due(three(64), 3, 0, 0, Checks.NO_LONG, Checks.NO_LONG);
+    }
+
+    private static DrawnWays three(int heavy) {
+        DrawnWays x = Checks.with("own a " + heavy + ";own b 97;own c 89;own d 83;meet a b b by 1 a;meet a c c by 1 a;"
+                + "meet a d d by 1 a;meet a a a by 1 a");
+        x.meeting(0, 0, 0, -1, 0, 0);
+        CHECKS.due("drawings", x.drawings(3), 28);
+        return x;
     }
 
     private static void wrongPowers() {

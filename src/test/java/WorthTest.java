@@ -186,6 +186,14 @@ final class WorthTest {
         DrawnWays x = four();
         tell(x, 499, 331, 167, -997);
         refused("at(2)", x.at(2), x, 6);
+        // 86119 by 859446900
+        tell(x, 99, 48, 124, -271);
+        refused("at(2) with a denominator just beyond", x.at(2), x, 6);
+        // A fraction has the rests of the first three primes by chance, and not that of the fourth.
+        tell(x, 748, 69, -27, -790);
+        refused("at(2) that the fourth prime finds out", x.at(2), x, 6);
+        tell(x, 317, -237, 62, -142);
+        refused("at(2) that it finds out, too", x.at(2), x, 6);
         tell(x, 997, -995, 991, -993);
         refused("at(2) at a pole", x.at(2), x, 5);
         DrawnWays z = Checks.with("own f 1; own g 99; own h 98; meet f g h by 99 a");
