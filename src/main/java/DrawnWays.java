@@ -1049,14 +1049,13 @@ public final class DrawnWays {
             return Integer.bitCount(links) >= points - 1;
         }
 
-        // Whether legs may be joined, and the second is the first of those alike that are left.
-        boolean isFirst(int i, int j, int left) {
-            return (((left & partners[i]) >> j) & 1) != 0 && (left & alike[j] & ((1 << j) - 1)) == 0;
+        boolean mayJoin(int i, int j, int left) {
+            return (((left & partners[i]) >> j) & 1) != 0;
         }
 
         // Of legs alike and of points alike only the first that is left can stand in a least row.
         boolean mayLead(int i, int j, int left, int touched) {
-            if (!isFirst(i, j, left)) {
+            if (!mayJoin(i, j, left) || (left & alike[j] & ((1 << j) - 1)) != 0) {
                 return false;
             }
             int q = legPoints[j];
@@ -1526,8 +1525,8 @@ public final class DrawnWays {
             }
         }
 
-        // The signs of all pairings of the legs that are left, together. Legs alike are never half
-        // ones, so the first of them that is left stands for the others: their pairings have its signs.
+        // The signs of all pairings of the legs that are left, together. Each is gone through for
+        // itself, so that this stands on nothing that the list of drawings stands on.
         private int walk(int left, int links, int depth) {
             if (left == 0) {
                 return layout.hangs(links) ? 1 : 0;
@@ -1539,8 +1538,8 @@ public final class DrawnWays {
             int others = left & (left - 1);
             int total = 0;
             for (int j = i + 1; j < layout.legs; j++) {
-                if (layout.isFirst(i, j, others)) {
-                    total += layout.signOf(i, j, others) * Integer.bitCount(others & layout.alike[j])
+                if (layout.mayJoin(i, j, others)) {
+                    total += layout.signOf(i, j, others)
                             * walk(others & ~(1 << j), links | layout.link(i, j), depth + 1);
                 }
             }
