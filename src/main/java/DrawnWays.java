@@ -122,7 +122,7 @@ public final class DrawnWays {
             }
             size++;
         }
-        if (book.kinds == 0) {
+        if (!book.isTold()) {
             return refused(NONE_SUCH);
         }
         if (size < 2) {
@@ -228,7 +228,7 @@ public final class DrawnWays {
     }
 
     public boolean letter(int l, int v) {
-        if (l < 0 || l >= LETTER_COUNT) {
+        if (!book.isTold() || l < 0 || l >= LETTER_COUNT) {
             return allowed(NONE_SUCH);
         }
         if (v < -99 || v > 99) {
@@ -737,6 +737,11 @@ public final class DrawnWays {
         void clear() {
             kinds = 0;
             rules = 0;
+        }
+
+        // Every text without a fault tells a kind, so a book without one is no book yet.
+        boolean isTold() {
+            return kinds > 0;
         }
 
         boolean hasKind(int i) {

@@ -791,7 +791,7 @@ final class Model {
     }
 
     boolean letter(int l, int v) {
-        if (l < 0 || l > 2) {
+        if (book == null || l < 0 || l > 2) {
             return refuse(1) == 0;
         }
         if (Math.abs((long) v) > 99) {

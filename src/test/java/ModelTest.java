@@ -189,6 +189,11 @@ final class ModelTest {
         m = new Model();
         String text = text();
         run = "run " + number + " \"" + text + "\": ";
+        // Calls ahead of any BOOK, so that every one is also asked without it.
+        for (int c = below(12); c > 0; c--) {
+            call();
+            afterCall();
+        }
         readBoth(text);
         for (int c = 0; c < calls; c++) {
             call();
@@ -211,9 +216,9 @@ final class ModelTest {
                     used[i] = e[i];
                 }
             }
-            boolean there = true;
+            boolean there = m.book != null;
             for (int k : used) {
-                there &= k >= 0 && m.book != null && k < m.book.kinds.size();
+                there = there && k >= 0 && k < m.book.kinds.size();
             }
             if (!there || m.book.even(used) || oneIn(20)) {
                 break;

@@ -84,12 +84,7 @@ final class WorthTest {
 
     // Promise 19
     private static void letters() {
-        DrawnWays y = new DrawnWays();
-        CHECKS.due("letter(0, 5) without a BOOK", y.letter(0, 5), true);
-        due("trouble()", y.trouble(), 0);
-        Checks.book(y, "own f 1; meet f f f by 3 a");
-        y.meeting(0, 0, 0, -1, 0, 0);
-        told("a new BOOK has LETTERS 1", y.at(1), y, 3, 1);
+        lettersWithoutBook();
         DrawnWays x = Checks.with("own f 1; meet f f f by 3 a; meet f f f by 5 b; meet f f f by 7 c");
         x.meeting(0, 0, 0, -1, 0, 0);
         told("LETTERS 1", x.at(1), x, 15, 1);
@@ -109,6 +104,36 @@ final class WorthTest {
         told("LETTERS stay with another MEETING", x.at(1), x, -198, 1);
         Checks.book(x, "own f 0");
         told("and with a faulty book", x.at(1), x, -198, 1);
+        CHECKS.due("letter(0, 2) behind a faulty book", x.letter(0, 2), true);
+        told("the BOOK that stays has its LETTERS", x.at(1), x, 6 - 495, 1);
+        Checks.book(x, "own f 1; meet f f f by 3 a");
+        x.meeting(0, 0, 0, -1, 0, 0);
+        told("a new BOOK has LETTERS 1", x.at(1), x, 3, 1);
+    }
+
+    // Without a BOOK there is no LETTER, and that comes ahead of a number out of bounds.
+    private static void lettersWithoutBook() {
+        DrawnWays x = new DrawnWays();
+        refused("letter(0, 0) without a BOOK", x.letter(0, 0), x, 1);
+        for (int l = -1; l < 4; l++) {
+            refused("letter(" + l + ", 5) without a BOOK", x.letter(l, 5), x, 1);
+            refused("letter(" + l + ", 100) without a BOOK", x.letter(l, 100), x, 1);
+        }
+        Checks.feed(x, "own f 1");
+        refused("letter(0, 5) with a TAPE alone", x.letter(0, 5), x, 1);
+        x.book(3);
+        due("book(3)", x.trouble(), 4);
+        due("where()", x.where(), 3);
+        refused("letter(0, 5) behind a faulty first book", x.letter(0, 5), x, 1);
+        due("where() behind it", x.where(), -1);
+        due("fault() stays", x.fault(), 1);
+        Checks.book(x, "own f 1; meet f f f by 3 a");
+        x.meeting(0, 0, 0, -1, 0, 0);
+        told("LETTERS are 1 then", x.at(1), x, 3, 1);
+        CHECKS.due("letter(0, 5) with a BOOK", x.letter(0, 5), true);
+        due("trouble()", x.trouble(), 0);
+        told("and is taken", x.at(1), x, 15, 1);
+        CHECKS.due("a BOOK without RULES has LETTERS", Checks.with("own f 1").letter(2, -99), true);
     }
 
     // Promises 20, 23, 24: 1/(s-4) + 1/(t-4) + 1/(u-4)
