@@ -178,12 +178,7 @@ final class BookTest {
     }
 
     private static void fault(String text, int number, int place) {
-        DrawnWays x = new DrawnWays();
-        due("book of \"" + text + "\"", Checks.book(x, text), -1);
-        due("trouble() of \"" + text + "\"", x.trouble(), 4);
-        due("fault() of \"" + text + "\"", x.fault(), number);
-        due("where() of \"" + text + "\"", x.where(), place);
-        due("count(0) of \"" + text + "\"", x.count(0), 0);
+        CHECKS.dueFault(text, number, place);
     }
 
     private static void forms() {

@@ -1,10 +1,8 @@
-import java.util.NoSuchElementException;
 import java.util.function.ToLongFunction;
 
 /** Promise 1, each call being the first of a new object, and each call being the last of 512. */
 final class CallsTest {
     private static final Checks CHECKS = new Checks("CallsTest");
-    private static final long NO_SIDE = -99;
 
     public static void main(String[] args) {
         firstCalls();
@@ -14,14 +12,6 @@ final class CallsTest {
         lastBooks();
         refusedToTheLast();
         CHECKS.end();
-    }
-
-    private static long side(DrawnWays x, int i, int k) {
-        try {
-            return x.side(i, k);
-        } catch (NoSuchElementException e) {
-            return NO_SIDE;
-        }
     }
 
     private static long bit(boolean answer) {
@@ -68,7 +58,7 @@ final class CallsTest {
             first("drawing(" + n + ", 0)", x -> x.drawing(n, 0), Checks.NO_INT, 0);
             first("point(" + n + ", 0)", x -> x.point(n, 0), -1, 0);
             first("joined(" + n + ", 0)", x -> x.joined(n, 0), -1, 0);
-            first("side(" + n + ", 0)", x -> side(x, n, 0), NO_SIDE, 0);
+            first("side(" + n + ", 0)", x -> Checks.side(x, n, 0), Checks.NO_SIDE, 0);
             first("same(" + n + ", ..)", x -> x.same(n, 203, 1, 504, 0, 0, 0), -1, 0);
             first("drawings(" + n + ")", x -> x.drawings(n), -1, 1);
             first("number(" + n + ", 0)", x -> bit(x.number(n, 0)), 0, 1);
@@ -107,7 +97,7 @@ final class CallsTest {
 
     // ---- the last call
 
-    /** A book, a meeting with numbers, and a list, after nine calls. */
+    /** A book, a meeting with numbers, a list, and twenty bytes of another book: ten calls. */
     private static DrawnWays held() {
         DrawnWays x = new DrawnWays();
         Checks.feed(x, "own f 2; meet f f f by 1 a");
@@ -136,7 +126,7 @@ final class CallsTest {
             case 8 -> x.meeting(0, 5, -1, 0, 0, 0);
             case 9 -> x.number(0, 1000);
             case 10 -> x.letter(3, 0);
-            case 11 -> side(x, 0, 1);
+            case 11 -> Checks.side(x, 0, 1);
             case 12 -> x.joined(2, 9);
             case 13 -> x.point(3, 0);
             case 14 -> x.drawing(1, 5);
@@ -154,8 +144,8 @@ final class CallsTest {
 
     private static DrawnWays filled() {
         DrawnWays x = held();
-        // held() has made 11 calls: two feeds, a third, and eight others.
-        for (int n = 11; n < 510; n++) {
+        // held() has made ten calls; with at() they are 511.
+        for (int n = 10; n < 510; n++) {
             fill(x, n);
         }
         x.at(2);
@@ -180,8 +170,8 @@ final class CallsTest {
         last("drawing", x -> x.drawing(2, 5), 72);
         last("point", x -> x.point(2, 1), 0);
         last("joined", x -> x.joined(2, 0), 4);
-        last("side", x -> side(x, 2, 0), 9);
-        last("side that isn't", x -> side(x, 3, 0), NO_SIDE);
+        last("side", x -> Checks.side(x, 2, 0), 9);
+        last("side that isn't", x -> Checks.side(x, 3, 0), Checks.NO_SIDE);
         last("pairings", x -> x.pairings(), 216);
         last("same", x -> x.same(2, 405, 708, 1, 902, 306, 0), 0);
         last("same of the second", x -> x.same(0, 407, 508, 2, 901, 306, -7), 1);
@@ -232,7 +222,7 @@ final class CallsTest {
     private static void refusedToTheLast() {
         DrawnWays x = new DrawnWays();
         for (int calls = 0; calls < 511; calls++) {
-            CHECKS.due("side of a new object", side(x, calls, calls), NO_SIDE);
+            CHECKS.due("side of a new object", Checks.side(x, calls, calls), Checks.NO_SIDE);
         }
         CHECKS.due("the 512th: count(0)", x.count(0), 0);
     }

@@ -2,7 +2,7 @@ import java.util.NoSuchElementException;
 import java.util.Random;
 
 /**
- * Runs of 512 calls with arguments from all over: nothing but what side() throws may reach the
+ * Runs of some hundred calls with arguments from all over: nothing but what side() throws may reach the
  * caller, the same calls give the same answers, and no call takes long.
  */
 final class EdgeTest {
@@ -23,9 +23,13 @@ final class EdgeTest {
         -2, -3, -99, -100, -999, -1000, Integer.MAX_VALUE, Integer.MIN_VALUE, Integer.MAX_VALUE - 1, 1 << 30, 1 << 16,
     };
 
+    // An object answers 512 calls, and a text is told by some ten.
+    private static final int MOST_CALLS = 500;
+
     private final Random random;
     private final DrawnWays x = new DrawnWays();
     private long answers = 17;
+    private int made;
 
     private EdgeTest(long seed) {
         random = new Random(seed);
@@ -33,7 +37,7 @@ final class EdgeTest {
 
     public static void main(String[] args) {
         Checks checks = new Checks("EdgeTest");
-        for (int run = 0; run < 300; run++) {
+        for (int run = 0; run < 600; run++) {
             long once = new EdgeTest(run).run();
             checks.due("run " + run + " again", new EdgeTest(run).run(), once);
         }
@@ -56,7 +60,7 @@ final class EdgeTest {
     }
 
     private long run() {
-        for (int call = 0; call < 512; call++) {
+        while (made < MOST_CALLS) {
             answers = answers * 31 + oneCall();
         }
         return answers;
@@ -74,11 +78,18 @@ final class EdgeTest {
         return random.nextInt(12) == 0 ? any() : random.nextInt(2);
     }
 
+    private int bookOf(String text) {
+        made += text.length() / 20 + 1;
+        return Checks.book(x, text);
+    }
+
+    // Counts what it makes; some of the cases are two calls.
     private long oneCall() {
+        made += 2;
         switch (random.nextInt(28)) {
             case 0: return x.feed(any(), any(), any(), any(), any());
             case 1: return random.nextInt(4) == 0 ? x.book(any()) : 0;
-            case 2: return random.nextInt(4) == 0 ? Checks.book(x, TEXTS[random.nextInt(TEXTS.length)]) : 0;
+            case 2: return random.nextInt(4) == 0 ? bookOf(TEXTS[random.nextInt(TEXTS.length)]) : 0;
             case 3: return x.fault() * 1000L + x.where();
             case 4: return x.kind(any(), any());
             case 5: return x.rule(any(), any());

@@ -44,19 +44,8 @@ final class ListBoundsTest {
 
     private static DrawnWays met(String text, int... kinds) {
         DrawnWays x = Checks.with(text);
-        due("meeting", meet(x, kinds), kinds.length);
+        due("meeting", Checks.meet(x, kinds), kinds.length);
         return x;
-    }
-
-    private static int meet(DrawnWays x, int... kinds) {
-        int[] six = {-1, 77, -3, Integer.MIN_VALUE, Integer.MAX_VALUE, 0};
-        for (int i = 0; i < kinds.length; i++) {
-            six[i] = kinds[i];
-        }
-        if (kinds.length < 6) {
-            six[kinds.length] = -1;
-        }
-        return x.meeting(six[0], six[1], six[2], six[3], six[4], six[5]);
     }
 
     private static DrawnWays listed(String text, int order, int size, int... kinds) {
@@ -73,7 +62,7 @@ final class ListBoundsTest {
     private static void endsOfMeetings() {
         for (int size = 0; size <= 6; size++) {
             DrawnWays x = Checks.with(THREES);
-            due("meeting of " + size, meet(x, new int[size]), size < 2 ? -1 : size);
+            due("meeting of " + size, Checks.meet(x, new int[size]), size < 2 ? -1 : size);
             due("trouble()", x.trouble(), size < 2 ? 2 : 0);
             due("count(2)", x.count(2), size < 2 ? 0 : size);
             due("count(3)", x.count(3), 0);
@@ -98,23 +87,23 @@ final class ListBoundsTest {
                 int[] kinds = new int[6];
                 kinds[place] = kind;
                 DrawnWays x = Checks.with(THREES);
-                due("KIND " + kind + " at " + place, meet(x, kinds), -1);
+                due("KIND " + kind + " at " + place, Checks.meet(x, kinds), -1);
                 due("trouble()", x.trouble(), 1);
                 due("count(2)", x.count(2), 0);
                 if (place > 1) {
                     kinds[place - 1] = -1;
                     int want = place > 2 ? place - 1 : -1;
-                    due("and -1 ahead of it", meet(x, kinds), want);
+                    due("and -1 ahead of it", Checks.meet(x, kinds), want);
                     due("trouble() then", x.trouble(), want < 0 ? 2 : 0);
                 }
             }
         }
         DrawnWays x = Checks.with("own a 1;own b 1;own c 1;own d 1;own e 1;own f 1;own g 1;own h 1");
-        due("the first and the eighth KIND", meet(x, 0, 7), 2);
-        due("a ninth", meet(x, 0, 8), -1);
-        due("one END of a KIND that isn't: none such comes first", meet(x, 8), -1);
+        due("the first and the eighth KIND", Checks.meet(x, 0, 7), 2);
+        due("a ninth", Checks.meet(x, 0, 8), -1);
+        due("one END of a KIND that isn't: none such comes first", Checks.meet(x, 8), -1);
         due("trouble()", x.trouble(), 1);
-        due("one END of a KIND that is", meet(x, 7), -1);
+        due("one END of a KIND that is", Checks.meet(x, 7), -1);
         due("trouble() of it", x.trouble(), 2);
     }
 
@@ -123,8 +112,8 @@ final class ListBoundsTest {
         x.number(0, 4);
         x.number(1, -4);
         for (int kind = 1; kind < 3; kind++) {
-            due("a refused meeting", meet(x, 0, 0, kind), -1);
-            due("a meeting of one", meet(x, 0), -1);
+            due("a refused meeting", Checks.meet(x, 0, 0, kind), -1);
+            due("a meeting of one", Checks.meet(x, 0), -1);
             due("ENDS stay", x.count(2), 4);
             due("THE LIST stays", x.count(3), 3);
             due("its order", x.count(4), 2);
@@ -134,7 +123,7 @@ final class ListBoundsTest {
         // flows 0, 4, 4
         due("worth", x.worth(false), -1);
         due("worth by", x.worth(true), 12);
-        due("the same MEETING told anew", meet(x, 0, 0, 0, 0), 4);
+        due("the same MEETING told anew", Checks.meet(x, 0, 0, 0, 0), 4);
         due("no LIST", x.count(3), 0);
         due("no order", x.count(4), 0);
         due("pairings()", x.pairings(), -1);
@@ -457,31 +446,31 @@ final class ListBoundsTest {
         DrawnWays x = met(free, 0, 2);
         due("one half END", x.drawings(1), -1);
         due("trouble()", x.trouble(), 7);
-        meet(x, 0, 1, 0);
+        Checks.meet(x, 0, 1, 0);
         due("three half ENDS", x.drawings(2), -1);
         due("trouble()", x.trouble(), 7);
-        meet(x, 0, 0);
+        Checks.meet(x, 0, 0);
         due("two of one half KIND without a MARK", x.drawings(2), 0);
         due("trouble()", x.trouble(), 0);
-        meet(x, 0, 1, 0, 1, 0, 1);
+        Checks.meet(x, 0, 1, 0, 1, 0, 1);
         due("six half ENDS", x.drawings(1), 0);
         due("trouble()", x.trouble(), 0);
         String marked = "half e p 3 9;pair u v 1 -9;own g 2;meet e u g g by 2 b;meet e p g by 1 a;meet u v g by 1 a";
         x = Checks.with("half e p 3 9;pair u v 1 -9;half c d 1 0;own g 2;meet e u c by 2 b;meet e p g by 1 a;meet u v g by 1 a");
-        meet(x, 0, 1, 6);
+        Checks.meet(x, 0, 1, 6);
         due("MARKS 9 and -9", x.drawings(1), 1);
-        meet(x, 0, 2, 4);
+        Checks.meet(x, 0, 2, 4);
         due("MARKS 9 and -9 of other KINDS", x.drawings(1), 0);
         due("trouble()", x.trouble(), 0);
-        meet(x, 1, 3, 5);
+        Checks.meet(x, 1, 3, 5);
         due("what the RULE e u c meets", x.drawings(1), 1);
-        meet(x, 0, 2);
+        Checks.meet(x, 0, 2);
         due("MARKS 0, but one half END", x.drawings(1), -1);
         due("trouble()", x.trouble(), 7);
-        meet(x, 0, 4);
+        Checks.meet(x, 0, 4);
         due("half ENDS even, but MARKS 9", x.drawings(1), -1);
         due("trouble()", x.trouble(), 7);
-        meet(x, 0, 0, 0, 0, 0, 0);
+        Checks.meet(x, 0, 0, 0, 0, 0, 0);
         due("MARKS 54", x.drawings(3), -1);
         due("trouble()", x.trouble(), 7);
         due("a RULE with one half LEG", Checks.book(new DrawnWays(), marked), -1);

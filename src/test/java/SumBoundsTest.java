@@ -22,11 +22,7 @@ final class SumBoundsTest {
     }
 
     private static void due(DrawnWays x, int a, int b, int c, long top, long bottom) {
-        String powers = "(" + a + ", " + b + ", " + c + ")";
-        CHECKS.due("sum" + powers, x.sum(a, b, c, false), top);
-        CHECKS.due("sum" + powers + " by", x.sum(a, b, c, true), bottom);
-        CHECKS.due("byPairings" + powers, x.byPairings(a, b, c, false), top);
-        CHECKS.due("byPairings" + powers + " by", x.byPairings(a, b, c, true), bottom);
+        CHECKS.dueSums(x, a, b, c, top, bottom);
     }
 
     private static void none(DrawnWays x, int a, int b, int c) {
@@ -37,9 +33,7 @@ final class SumBoundsTest {
 
     private static DrawnWays listed(String text, int order, int... kinds) {
         DrawnWays x = Checks.with(text);
-        int[] six = {-1, -1, -1, -1, -1, -1};
-        System.arraycopy(kinds, 0, six, 0, kinds.length);
-        x.meeting(six[0], six[1], six[2], six[3], six[4], six[5]);
+        CHECKS.due("meeting", Checks.meet(x, kinds), kinds.length);
         CHECKS.due("drawings(" + order + ") of " + text, x.drawings(order) > 0, true);
         return x;
     }

@@ -13,11 +13,7 @@ final class SumTest {
     }
 
     private static void due(DrawnWays x, int a, int b, int c, long top, long bottom) {
-        String powers = "(" + a + ", " + b + ", " + c + ")";
-        CHECKS.due("sum" + powers, x.sum(a, b, c, false), top);
-        CHECKS.due("sum" + powers + " by", x.sum(a, b, c, true), bottom);
-        CHECKS.due("byPairings" + powers, x.byPairings(a, b, c, false), top);
-        CHECKS.due("byPairings" + powers + " by", x.byPairings(a, b, c, true), bottom);
+        CHECKS.dueSums(x, a, b, c, top, bottom);
     }
 
     private static void knownSums() {

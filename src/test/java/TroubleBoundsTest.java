@@ -31,9 +31,7 @@ final class TroubleBoundsTest {
     }
 
     private static void refused(String call, boolean got, DrawnWays x, int why) {
-        CHECKS.due(call, got, false);
-        CHECKS.due("trouble() of " + call, x.trouble(), why);
-        CHECKS.due("trouble() of " + call + " again", x.trouble(), why);
+        CHECKS.dueRefused(call, got, x, why);
     }
 
     private static DrawnWays met(String text, int... kinds) {
@@ -43,9 +41,7 @@ final class TroubleBoundsTest {
     }
 
     private static void meet(DrawnWays x, int... kinds) {
-        int[] six = {-1, -1, -1, -1, -1, -1};
-        System.arraycopy(kinds, 0, six, 0, kinds.length);
-        CHECKS.due("meeting", x.meeting(six[0], six[1], six[2], six[3], six[4], six[5]), kinds.length);
+        CHECKS.due("meeting", Checks.meet(x, kinds), kinds.length);
         CHECKS.due("its trouble()", x.trouble(), 0);
     }
 

@@ -1,7 +1,7 @@
 /** Terms IV at their bounds: numbers and letters, poles, what is lost, sides, and what is told ahead and behind. */
 final class WorthBoundsTest {
     private static final Checks CHECKS = new Checks("WorthBoundsTest");
-    private static final int[] PRIMES = {1000003, 1000033, 1000037, 1000039};
+    private static final int[] PRIMES = Model.PRIMES;
     private static final int MAX = Integer.MAX_VALUE;
     private static final int MIN = Integer.MIN_VALUE;
 
@@ -41,21 +41,11 @@ final class WorthBoundsTest {
     }
 
     private static void no(String call, boolean answer, DrawnWays x, int why) {
-        CHECKS.due(call, answer, false);
-        due("trouble() of " + call, x.trouble(), why);
-        if (why != 5) {
-            due("pole() of " + call, x.pole(), -1);
-        }
+        CHECKS.dueRefused(call, answer, x, why);
     }
 
     private static void told(String call, boolean answer, DrawnWays x, long top, long bottom) {
-        yes(call, answer, x);
-        due("worth of " + call, x.worth(false), top);
-        due("worth of " + call + " by", x.worth(true), bottom);
-        for (int k = 0; k < 4; k++) {
-            CHECKS.due("rest(" + k + ") within its prime", x.rest(k) >= 0 && x.rest(k) < PRIMES[k], true);
-            due("rest(" + k + ") of " + call, Math.floorMod(x.rest(k) * bottom - top, (long) PRIMES[k]), 0);
-        }
+        CHECKS.dueTold(call, answer, x, top, bottom);
     }
 
     private static DrawnWays met(String text, int... kinds) {
@@ -65,9 +55,7 @@ final class WorthBoundsTest {
     }
 
     private static void meet(DrawnWays x, int... kinds) {
-        int[] six = {-1, -1, -1, -1, -1, -1};
-        System.arraycopy(kinds, 0, six, 0, kinds.length);
-        due("meeting", x.meeting(six[0], six[1], six[2], six[3], six[4], six[5]), kinds.length);
+        due("meeting", Checks.meet(x, kinds), kinds.length);
     }
 
     private static void tell(DrawnWays x, int... numbers) {
@@ -129,8 +117,9 @@ final class WorthBoundsTest {
     }
 
     private static void lettersAtTheirBounds() {
-        DrawnWays x = met("own f 1;meet f f f by 1 a;meet f f f by 1 b;meet f f f by 1 c", 0, 0, 0);
+        DrawnWays x = null;
         for (int l = 0; l < 3; l++) {
+            x = met("own f 1;meet f f f by 1 a;meet f f f by 1 b;meet f f f by 1 c", 0, 0, 0);
             for (int v : new int[] {-99, -98, -1, 0, 1, 98, 99}) {
                 yes("letter(" + l + ", " + v + ")", x.letter(l, v), x);
                 told("at(1)", x.at(1), x, v + 2, 1);
@@ -216,19 +205,17 @@ final class WorthBoundsTest {
 
     // A flow that is one more or one less, or none, is no POLE.
     private static void noPoles() {
-        told("flow 0 three times, HEAVY 1", four(1).at(2), at2(four(1)), -3, 1);
-        told("flow 0 three times, HEAVY 99", four(99).at(2), at2(four(99)), -1, 3267);
-        // flows 100 and 98 and 0: 1/199 - 1/197 - 1/9801 is lost by no means: 199 * 197 * 9801.
-        told("HEAVY 99 and one more and one less", four(99, 99, 1, -1, -99).at(2), at2(four(99, 99, 1, -1, -99)),
-                197L * 9801 - 199L * 9801 - 199L * 197, 199L * 197 * 9801);
-        told("HEAVY 1, flows 2, 2, 0", four(1, 2, 0, 0, -2).at(2), at2(four(1, 2, 0, 0, -2)), -1, 3);
-        told("HEAVY 2, flows 1, 3, 0", four(2, 2, -1, 1, -2).at(2), at2(four(2, 2, -1, 1, -2)),
-                -20 + 12 - 15, 60);
+        toldAtTwo(four(1), -3, 1);
+        toldAtTwo(four(99), -1, 3267);
+        // flows 100, 98 and 0
+        toldAtTwo(four(99, 99, 1, -1, -99), 197L * 9801 - 199L * 9801 - 199L * 197, 199L * 197 * 9801);
+        toldAtTwo(four(1, 2, 0, 0, -2), -1, 3);
+        // flows 1, 3 and 0
+        toldAtTwo(four(2, 2, -1, 1, -2), -20 + 12 - 15, 60);
     }
 
-    private static DrawnWays at2(DrawnWays x) {
-        x.at(2);
-        return x;
+    private static void toldAtTwo(DrawnWays x, long top, long bottom) {
+        told("at(2)", x.at(2), x, top, bottom);
     }
 
     private static void firstPole() {
@@ -575,12 +562,10 @@ final class WorthBoundsTest {
         x = met("own f 1;meet f f f by 99 a", 0, 0, 0, 0);
         x.letter(0, 99);
         told("at(2)", x.at(2), x, -288178803, 1);
-        int[] rests = new int[4];
         for (int k = 0; k < 4; k++) {
-            rests[k] = (int) Math.floorMod(-288178803L, (long) PRIMES[k]);
-            due("rest(" + k + ")", x.rest(k), rests[k]);
+            due("rest(" + k + ")", x.rest(k), Math.floorMod(-288178803L, (long) PRIMES[k]));
         }
-        // A half: (p + 1) / 2
+        // -3 by 4, as 4 times 250,000 is 1,000,003 less 3
         x = met("own f 1;own g 2;meet f f g by 1 a;meet f f g by 1 b", 0, 0, 0, 0);
         x.letter(1, 0);
         tell(x, 0, 0, 0, 0);

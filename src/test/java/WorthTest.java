@@ -1,7 +1,6 @@
 /** Promises 18 to 25: numbers, letters, worths, poles, and worths in parts. */
 final class WorthTest {
     private static final Checks CHECKS = new Checks("WorthTest");
-    private static final int[] PRIMES = {1000003, 1000033, 1000037, 1000039};
     private static final String THREES = "own f 2; meet f f f by 1 a";
 
     public static void main(String[] args) {
@@ -28,26 +27,11 @@ final class WorthTest {
     }
 
     private static void told(String call, boolean answer, DrawnWays x, long top, long bottom) {
-        CHECKS.due(call, answer, true);
-        due("trouble() of " + call, x.trouble(), 0);
-        due("pole() of " + call, x.pole(), -1);
-        due("worth of " + call, x.worth(false), top);
-        due("worth of " + call + " by", x.worth(true), bottom);
-        for (int k = 0; k < 4; k++) {
-            long p = PRIMES[k];
-            due("rest(" + k + ") of " + call, Math.floorMod(x.rest(k) * bottom - top, p), 0);
-            CHECKS.due("rest(" + k + ") within its prime", x.rest(k) >= 0 && x.rest(k) < p, true);
-        }
-        due("rest(4)", x.rest(4), -1);
-        due("rest(-1)", x.rest(-1), -1);
+        CHECKS.dueTold(call, answer, x, top, bottom);
     }
 
     private static void refused(String call, boolean answer, DrawnWays x, int why) {
-        CHECKS.due(call, answer, false);
-        due("trouble() of " + call, x.trouble(), why);
-        if (why != 5) {
-            due("pole() of " + call, x.pole(), -1);
-        }
+        CHECKS.dueRefused(call, answer, x, why);
     }
 
     private static void tell(DrawnWays x, int... numbers) {
