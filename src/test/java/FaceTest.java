@@ -121,6 +121,18 @@ final class FaceTest {
         holds("no package", !Pattern.compile("^\\s*package ", Pattern.MULTILINE).matcher(code).find());
         holds("ASCII alone", text.chars().allMatch(c -> c == '\n' || c >= 32 && c < 127));
         methodLengths(code.split("\n", -1));
+        madeWithTheObject(code.split("\n", -1));
+    }
+
+    // Rule 12, and what README.md says: a call makes nothing but the exception that it throws.
+    private static void madeWithTheObject(String[] lines) {
+        for (String line : lines) {
+            if (line.matches(".*\\bnew\\b.*")) {
+                holds("made with the object, or thrown: " + line.trim(),
+                        line.matches(" {4}( {4})?private (static )?(final )?[\\w\\[\\]]+ \\w+ = new .*;")
+                        || line.matches(" +throw new NoSuchElementException\\(\\);"));
+            }
+        }
     }
 
     // A method's body ends at the brace that stands as far in as its first line.

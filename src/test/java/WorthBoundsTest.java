@@ -22,6 +22,7 @@ final class WorthBoundsTest {
         lostByTheFourthPrime();
         partsAtTheBound();
         partThatWouldBeLost();
+        signsOfParts();
         everySide();
         everyKind();
         aheadOfAnyAnswer();
@@ -544,6 +545,28 @@ final class WorthBoundsTest {
         kept(x, "at() of 7");
         meet(x, 0, 1, 2);
         told("at(1)", x.at(1), x, x.worth(false), 1);
+    }
+
+    // Each MEETING has SIGNS of its own: of one POINT -1 if e stands ahead of p among the ENDS (one join is of a
+    // lesser LEG p, and the joins don't cross), else 1 (of a lesser LEG p, and they cross).
+    private static void signsOfParts() {
+        DrawnWays x = met("half e p 3 1;own g 2;meet e p g by 2 b", 0, 1, 2, 2);
+        told("e, g, p and p, g, e", x.parted(5, 1, 2), x, -4, 1);
+        // 0 - 5, 1 - 7 (of a lesser p) and 4 - 8: each two cross.
+        told("JOINED", x.whole(5, 1, 2), x, 4, 1);
+        told("e, g, p and p, g, e", x.parted(9, 1, 2), x, -4, 1);
+        told("JOINED", x.whole(9, 1, 2), x, 4, 1);
+        told("both DRAWINGS, by 0 less 3 times 3", x.at(2), x, -8, 9);
+        meet(x, 1, 0, 2, 2);
+        told("p, g, e and e, g, p", x.parted(5, 0, 2), x, -4, 1);
+        // 0 - 4 and 5 - 7 (both of a lesser p), and 1 - 8: the first and the last cross.
+        told("JOINED", x.whole(5, 0, 2), x, -4, 1);
+        meet(x, 0, 1, 0, 1);
+        told("e, p, g and e, p, g", x.parted(3, 2, 2), x, 4, 1);
+        told("JOINED", x.whole(3, 2, 2), x, 4, 1);
+        told("e, p, g and p, e, g", x.parted(9, 2, 2), x, -4, 1);
+        told("JOINED", x.whole(9, 2, 2), x, -4, 1);
+        told("both DRAWINGS take each other away", x.at(2), x, 0, 1);
     }
 
     private static void knownRests() {
